@@ -1165,11 +1165,11 @@ public final class EngravedLines {
       if (kind == NOTE && (isNext('+') || isNext('-'))) {
         boolean above = isNext('+');
         next++;
-        int size = above ? readNumber(0, 20) : readNumber(1, 12);
-        if (size == MISSING) {
+        int away = above ? readNumber(0, 20) : readNumber(1, 12);
+        if (away == MISSING) {
           return false;
         }
-        step = above ? size : 0 - size;
+        step = above ? away : 0 - away;
       }
       keep(kind, duration, step, readAdorn());
       return true;
