@@ -5,10 +5,12 @@ public final class BeamSlurBoundsTest {
   public static void main(String[] args) {
     tenths();
     sixteenths();
+    roundedToAQuarter();
     upOrDown();
     twoOrMore();
     liftIsTheGreatestDrop();
     liftAroundNothing();
+    dropsAreRounded();
     threeOrMore();
     clearsIsMoreThanTop();
     placesAreHeldTo6();
@@ -56,6 +58,20 @@ public final class BeamSlurBoundsTest {
     due.bits("held from -3 quarters", climbing(32, -24).beam(0, 1, 1), -0.5f);
     due.bits("two just met", climbing(32, 12).beam(0, 1, 1), 0.5f);
     due.bits("-2.5 go up", climbing(32, -20).beam(0, 1, 1), -0.5f);
+  }
+
+  /** "each sum, .. product .. of FLOATS .. is rounded": 0.5 short of it by less is a quarter, too. */
+  private static void roundedToAQuarter() {
+    String[] texts = {"n16 n48-12 n13+15", "n32+4 n34+4 n19-10 n28+16"};
+    int[] widths = {85, 64};
+    for (int i = 0; i < 2; i++) {
+      EngravedLines x = Due.read(texts[i]);
+      x.width(widths[i]);
+      int b = x.count(0) - 1;
+      float rise = Float.intBitsToFloat(x.beam(0, b, 0));
+      due.holds("short of a quarter by little", rise * 4d + 0.5d < 1d && rise * 4f + 0.5f == 1f);
+      due.bits("SLOPE of " + texts[i], x.beam(0, b, 1), 0.25f);
+    }
   }
 
   /** "up (over all), if STEPS of all together are below 0, else down". */
@@ -133,6 +149,19 @@ public final class BeamSlurBoundsTest {
     for (int step = -12; step < 0; step++) {
       due.bits("up from " + step, steps(60, step, step).beam(0, 1, 3), 5 + step);
     }
+  }
+
+  /** A DROP is rounded in each of its steps: the middle NOTE's, of SLOPE -0.25, down. */
+  private static void dropsAreRounded() {
+    EngravedLines x = Due.read("n2+18 n64+11 n38+7");
+    x.width(45);
+    float middle = Float.intBitsToFloat(x.at(0, 2, 1, 1));
+    float last = Float.intBitsToFloat(x.at(0, 2, 2, 1));
+    float drop = -11f - 0.25f * (middle - last) * 2f;
+    due.holds("it is of matter that it is rounded",
+        drop != (float) (-11d - 0.25d * ((double) middle - last) * 2d));
+    due.bits("SLOPE", x.beam(0, 2, 1), -0.25f);
+    due.bits("LIFT", x.beam(0, 2, 3), drop + 5f);
   }
 
   /** "A SLUR over a STRETCH of three or more COLUMNS". */

@@ -6,6 +6,7 @@ public final class LineBoundsTest {
     none();
     endsOfLines();
     oneToThirtyTwo();
+    totalOneByOne();
     linesThatAreThere();
     roomForTheRods();
     wayThatBreaksOff();
@@ -73,6 +74,23 @@ public final class LineBoundsTest {
       due.is("no next one", x.line(n - 1, 3), Due.BEYOND);
       due.is("the next one of the one ahead", x.line(n - 2, 3), n == 1 ? Due.BEYOND : 10);
     }
+  }
+
+  /** "TOTAL of a way is the SUM of BADS of its lines", each sum rounded to a FLOAT. */
+  private static void totalOneByOne() {
+    EngravedLines x = read("n1 b" + " n1 b".repeat(15), 20);
+    for (int i = 0; i < 32; i += 2) {
+      x.set(i, 3, 9);
+    }
+    float sum = 0;
+    double unrounded = 0;
+    for (int i = 0; i < 16; i++) {
+      sum += bad(20f, 9f, 3.25f);
+      unrounded += bad(20f, 9f, 3.25f);
+    }
+    due.is("lines()", x.lines(), 16);
+    due.bits("total()", x.total(), sum);
+    due.holds("it is of matter that it is rounded", sum != (float) unrounded);
   }
 
   /** "BEYOND: no such line (no next one, what 3), what". */

@@ -5,6 +5,7 @@ public final class StretchBoundsTest {
   public static void main(String[] args) {
     oneColumn();
     allColumns();
+    sumsOneByOne();
     justTheRod();
     againAndAgain();
     allHeld();
@@ -63,6 +64,26 @@ public final class StretchBoundsTest {
     }
     due.is("COLUMN 32", x.at(0, 31, 32, 1), Due.BEYOND);
     due.is("COLUMNS 0 to 32", x.held(0, 32), Due.BEYOND);
+  }
+
+  /** "SUMS of FLOATS begin with 0 and go on one by one", each of them rounded. */
+  private static void sumsOneByOne() {
+    EngravedLines x = new EngravedLines();
+    x.width(373);
+    for (int i = 0; i < 32; i++) {
+      x.add(0, 1 + i);
+    }
+    float at = 0;
+    double unrounded = 0;
+    int unlike = 0;
+    for (int i = 0; i < 32; i++) {
+      due.bits("AT of " + i, x.at(0, 31, i, 1), at);
+      unlike += at == (float) unrounded ? 0 : 1;
+      float length = Float.intBitsToFloat(x.at(0, 31, i, 0));
+      at += length;
+      unrounded += length;
+    }
+    due.holds("it is of matter that they are rounded", unlike > 0);
   }
 
   /** "all those .. of which (IDEAL + (FORCE times FLEX)) is less than ROD": not those just as long. */
@@ -269,6 +290,8 @@ public final class StretchBoundsTest {
     due.is("both in none of its CELLS", x.apart(0, 0, 1, 2), 3 + 13 + 2);
     x.set(0, 2, 0);
     due.is("3 + 7 + 2", x.apart(0, 0, 1, 2), 12);
+    x.set(0, 3, 1);
+    due.is("both in CELL 0 alone", x.apart(0, 0, 1, 2), 12);
     due.is("the other way round", x.apart(1, 2, 0, 0), 8);
   }
 }
