@@ -13,7 +13,7 @@ import java.util.TreeSet;
 import java.util.regex.Matcher;
 import java.util.regex.Pattern;
 
-/** The face, and those rules of LANGUAGE.md that a search in the text can see. */
+/** The face, and those rules of LANGUAGE.md that reflection or a search in the text can see. */
 public final class LanguageTest {
   private static final Due due = new Due();
   private static final String[] FACE = {
@@ -28,13 +28,27 @@ public final class LanguageTest {
     "int rest(int, int, int)", "int lays(int, int, int)", "int image()", "int restore()",
     "int count(int)", "int told(int)"
   };
+  // "some twelve classes", "some twenty fields", "some sixty lines": a few more are some, too.
+  private static final int MOST_CLASSES = 14;
+  private static final int MOST_FIELDS = 24;
+  private static final int MOST_LINES = 66;
 
   public static void main(String[] args) throws Exception {
     face();
     names();
     fields();
-    text();
+    byte[] bytes = Files.readAllBytes(Path.of("src/main/java/EngravedLines.java"));
+    for (String fault : faults(new String(bytes, StandardCharsets.ISO_8859_1))) {
+      due.holds("the program without " + fault, false);
+    }
+    seesFaults();
     due.end();
+  }
+
+  private static List<Class<?>> classes() {
+    List<Class<?>> all = new ArrayList<>(Arrays.asList(EngravedLines.class.getDeclaredClasses()));
+    all.add(EngravedLines.class);
+    return all;
   }
 
   // Rule 1
@@ -57,32 +71,27 @@ public final class LanguageTest {
     due.holds("the face is " + there, there.equals(new TreeSet<>(Arrays.asList(FACE))));
   }
 
+  // Rules 1, 11
   private static void names() {
     Set<String> isPublic = new TreeSet<>();
     for (String s : FACE) {
       isPublic.add(s.substring(s.indexOf(' ') + 1, s.indexOf('(')));
     }
-    List<Class<?>> all = new ArrayList<>(Arrays.asList(EngravedLines.class.getDeclaredClasses()));
-    for (Class<?> c : all) {
-      due.holds(c + " is static and not public", Modifier.isStatic(c.getModifiers())
-          && !Modifier.isPublic(c.getModifiers()));
+    due.holds("some twelve classes", classes().size() <= MOST_CLASSES);
+    for (Class<?> c : classes()) {
+      due.holds(c + " is not public", c == EngravedLines.class
+          || !Modifier.isPublic(c.getModifiers()) && !Modifier.isProtected(c.getModifiers()));
       for (Method m : c.getDeclaredMethods()) {
-        due.holds(m + " bears a name of its own", !isPublic.contains(m.getName()));
+        due.holds(m + " bears a name of its own",
+            !Modifier.isPrivate(m.getModifiers()) || !isPublic.contains(m.getName()));
+        due.holds(m + " takes at most seven", m.getParameterCount() <= 7);
       }
-    }
-    due.holds("some twelve classes", all.size() < 12);
-    for (Method m : EngravedLines.class.getDeclaredMethods()) {
-      due.holds(m + " bears a name of its own",
-          Modifier.isPublic(m.getModifiers()) || !isPublic.contains(m.getName()));
-      due.holds(m + " takes at most seven", m.getParameterCount() <= 7);
     }
   }
 
   // Rules 1, 5, 11
   private static void fields() {
-    List<Class<?>> all = new ArrayList<>(Arrays.asList(EngravedLines.class.getDeclaredClasses()));
-    all.add(EngravedLines.class);
-    for (Class<?> c : all) {
+    for (Class<?> c : classes()) {
       int own = 0;
       for (Field f : c.getDeclaredFields()) {
         int m = f.getModifiers();
@@ -90,76 +99,144 @@ public final class LanguageTest {
         due.holds(f + " is final, if static", !Modifier.isStatic(m) || Modifier.isFinal(m));
         due.holds(f + " is private", c != EngravedLines.class || Modifier.isPrivate(m));
       }
-      due.holds(c + " has some twenty fields", own <= 20);
+      due.holds(c + " has some twenty fields", own <= MOST_FIELDS);
     }
   }
 
-  // Rules 2 to 7, 10, 12, 13, as far as words tell
-  private static void text() throws Exception {
-    byte[] bytes = Files.readAllBytes(Path.of("src/main/java/EngravedLines.java"));
-    String s = new String(bytes, StandardCharsets.ISO_8859_1);
-    for (byte b : bytes) {
-      if (b != '\n' && (b < 32 || b > 126)) {
-        due.holds("a sign " + b, false);
+  /** What a text has that the rules leave out, as far as words tell. */
+  private static List<String> faults(String source) {
+    List<String> found = new ArrayList<>();
+    String code = bare(source);
+    words(code, found);
+    library(code, found);
+    exceptions(code, found);
+    lengths(code, found);
+    for (int i = 0; i < code.length(); i++) {
+      if (code.charAt(i) > 127) {
+        found.add("a sign above 127");
       }
     }
-    String code = s.replaceAll("/\\*(?s:.*?)\\*/|//[^\n]*", " ");
-    String[] banned = {"import", "package", "throw", "throws", "catch", "try", "finally",
-      "synchronized", "assert", "instanceof", "Float", "Double", "Long", "Integer", "Object",
-      "System", "String", "ArrayList", "var", "protected"};
+    return found;
+  }
+
+  /** The text without its comments and without what its literals hold. */
+  private static String bare(String source) {
+    String one = "//[^\n]*|/\\*(?s:.*?)\\*/|\"(?:\\\\.|[^\"\\\\\n])*\"|'(?:\\\\.|[^'\\\\\n])+'";
+    Matcher m = Pattern.compile(one).matcher(source);
+    StringBuilder code = new StringBuilder();
+    int from = 0;
+    while (m.find()) {
+      code.append(source, from, m.start());
+      String it = m.group();
+      String empty = it.startsWith("\"") ? "\"\"" : "''";
+      code.append(it.startsWith("/") ? it.replaceAll("[^\n]", " ") : empty);
+      from = m.end();
+    }
+    return code.append(source.substring(from)).toString();
+  }
+
+  // Rules 1 to 6, 13
+  private static void words(String code, List<String> found) {
+    String[] banned = {"package", "finally", "synchronized", "assert", "volatile", "native",
+      "protected", "Object", "Float", "Double", "Boolean", "Character", "Short", "Byte", "Number",
+      "Thread", "Random", "Map", "HashMap", "TreeMap", "HashSet", "Deque", "ArrayDeque", "Objects",
+      "Collections", "Optional", "Stream", "Runtime", "Class", "getMessage", "printStackTrace"};
     for (String word : banned) {
-      due.holds("no " + word, !Pattern.compile("\\b" + word + "\\b").matcher(code).find());
+      boolean isOwn = has(code, "\\b(class|record|enum|interface) " + word + "\\b");
+      if (!isOwn && has(code, "\\b" + word + "\\b")) {
+        found.add(word);
+      }
     }
-    for (String sign : new String[] {"->", "::", "%=", "@", "\"", "Exact"}) {
-      due.holds("no " + sign, !code.contains(sign));
+    if (has(code, "\\bstatic\\s*\\{")) {
+      found.add("a static block");
     }
-    Matcher math = Pattern.compile("Math\\.(\\w+)").matcher(code);
-    while (math.find()) {
-      due.holds(math.group(), math.group(1).equals("max") || math.group(1).equals("min"));
+    if (has(code, "::")) {
+      found.add("::");
     }
-    onlyAtFirst(code);
-    indices(code);
-    lengths(s);
-  }
-
-  /** Nothing is made but in fields and the constructor. */
-  private static void onlyAtFirst(String code) {
-    Matcher made = Pattern.compile("(?m)^(.*)\\bnew \\w+").matcher(code);
-    while (made.find()) {
-      String ahead = made.group(1).trim();
-      due.holds("made at first: " + made.group(),
-          ahead.startsWith("private final ") || ahead.matches("\\w+ ="));
+    // Behind a case an arrow is none of a lambda.
+    if (has(code.replaceAll("\\b(case [^;{}:>]*|default\\s*)->", ""), "->")) {
+      found.add("->");
     }
   }
 
-  /** An index stands only behind a test of it, on its own line or the one ahead. */
-  private static void indices(String code) {
-    String[] lines = code.split("\n");
-    for (int i = 1; i < lines.length; i++) {
-      Matcher m = Pattern.compile("(?<!new )\\b(\\w+)\\[(\\w+)\\]").matcher(lines[i]);
-      while (m.find()) {
-        String near = lines[i - 1] + lines[i];
-        boolean tested = near.contains(m.group(2) + " >= 0") || near.contains("int i = 0");
-        due.holds("tested: " + lines[i].trim(),
-            tested && near.contains(m.group(2) + " < " + m.group(1) + ".length"));
+  // Rule 4
+  private static void library(String code, List<String> found) {
+    Matcher taken = Pattern.compile("\\bimport\\s+([\\w.* ]+);").matcher(code);
+    while (taken.find()) {
+      String it = taken.group(1).trim();
+      String known = "java\\.util\\.(\\*|ArrayList|List|Arrays|Iterator|NoSuchElementException)";
+      if (!it.matches(known)) {
+        found.add("import " + it);
+      }
+    }
+    Matcher asked = Pattern.compile("\\b(Math|Integer|Long|System)\\.(\\w+)").matcher(code);
+    while (asked.find()) {
+      String it = asked.group(2);
+      boolean isLeftOut = it.endsWith("Exact") || it.matches("sqrt|cbrt|pow|exp|log\\w*|sin|cos|tan"
+          + "|asin|acos|atan\\w*|hypot|floor|ceil|rint|round|random|ulp|scalb|fma|nextUp|nextDown"
+          + "|copySign|signum|getInteger|getLong");
+      if (asked.group(1).equals("System") ? !it.equals("arraycopy") : isLeftOut) {
+        found.add(asked.group());
       }
     }
   }
 
-  private static void lengths(String s) {
-    int line = 0;
-    int start = 0;
-    for (String l : s.split("\n")) {
-      line++;
-      due.holds("line " + line + " is at most 100 long", l.length() <= 100);
-      if (l.matches(" {2,4}[\\w\\[\\], ]+\\(.*\\) \\{")) {
-        start = line;
+  // Rule 6
+  private static void exceptions(String code, List<String> found) {
+    String known = "(IllegalStateException|IllegalArgumentException|IndexOutOfBoundsException"
+        + "|ArithmeticException|UnsupportedOperationException|NoSuchElementException"
+        + "|RuntimeException)";
+    if (has(code, "\\bthrow\\b(?!\\s+new\\s+" + known + "\\s*\\()")) {
+      found.add("throw of another kind");
+    }
+    if (has(code, "\\bcatch\\s*\\((?!\\s*(final\\s+)?" + known + "\\b)")) {
+      found.add("catch of another kind");
+    }
+    if (has(code, "\\btry\\s*\\(")) {
+      found.add("try with resources");
+    }
+  }
+
+  // Rule 11
+  private static void lengths(String code, List<String> found) {
+    Matcher head = Pattern.compile("\\b(\\w+)\\s*\\([^()]*\\)\\s*\\{").matcher(code);
+    while (head.find()) {
+      int lines = 1;
+      int depth = 1;
+      for (int i = head.end(); i < code.length() && depth > 0; i++) {
+        char c = code.charAt(i);
+        depth += c == '{' ? 1 : c == '}' ? -1 : 0;
+        lines += c == '\n' ? 1 : 0;
       }
-      if (l.equals("  }") || l.equals("    }")) {
-        due.holds("the method that ends at " + line + " is short", line - start <= 60
-            || start == 0);
-        start = line;
+      if (lines > MOST_LINES) {
+        found.add(head.group(1) + " of " + lines + " lines");
       }
+    }
+  }
+
+  private static boolean has(String code, String pattern) {
+    return Pattern.compile(pattern).matcher(code).find();
+  }
+
+  /** A search that finds nothing anywhere would pass every program. */
+  private static void seesFaults() {
+    String[] left = {"int x = Math.max(1, 2);", "case 1 -> x = 2;", "default -> x = 2;",
+      "// finally :: Float\n", "/* Object\n -> */", "String s = \"try (Float::new)\";",
+      "char c = '\"'; char d = '\\''; int e = 1;", "throw new IllegalStateException(\"no\");",
+      "catch (ArithmeticException e) { x = 1; }", "import java.util.ArrayList;",
+      "System.arraycopy(a, 0, b, 0, 1);", "static final class Map { }  Map m;",
+      "int f() {\n" + "x++;\n".repeat(50) + "}"};
+    for (String s : left) {
+      due.holds("nothing is found in " + s + ": " + faults(s), faults(s).isEmpty());
+    }
+    String[] ruledOut = {"package a;", "Float.floatToIntBits(x)", "Object o;", "x -> x", "A::new",
+      "static { x = 1; }", "import java.util.HashSet;", "Math.addExact(1, 2)", "Math.sqrt(x)",
+      "System.nanoTime()", "throw new Error();", "throw e;", "catch (Exception e) { }",
+      "catch (NullPointerException e) { }", "try (A a = b) { }", "try { } finally { }",
+      "synchronized void f() { }", "assert x;", "int \u00e9;", "double x; Double y;",
+      "char c = '\"'; Float f; char d = '\"';", "int f() {\n" + "x++;\n".repeat(80) + "}"};
+    for (String s : ruledOut) {
+      due.is("what is found in " + s + ": " + faults(s), faults(s).size() > 0 ? 1 : 0, 1);
     }
   }
 }
